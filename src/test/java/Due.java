@@ -1,0 +1,38 @@
+/** Holds the answers of a test against those that are due. */
+final class Due {
+    private int checks;
+    private int wrong;
+
+    void is(String call, long got, long want) {
+        checks++;
+        if (got != want) {
+            wrong++;
+            System.out.println(call + " answered " + got + ", due is " + want);
+        }
+    }
+
+    void is(String call, boolean got, boolean want) {
+        is(call, got ? 1 : 0, want ? 1 : 0);
+    }
+
+    void bytes(String call, int[] got, int[] want) {
+        checks++;
+        if (!java.util.Arrays.equals(got, want)) {
+            wrong++;
+            System.out.println(call + " gave " + java.util.Arrays.toString(got)
+                + ", due is " + java.util.Arrays.toString(want));
+        }
+    }
+
+    int wrong() {
+        return wrong;
+    }
+
+    /** Ends the test: with exit code 1 if an answer was wrong or nothing was asked. */
+    void end() {
+        if (wrong != 0 || checks == 0) {
+            System.out.println(wrong + " of " + checks + " answers are not as due");
+            System.exit(1);
+        }
+    }
+}
