@@ -1,0 +1,51 @@
+/** Promise 15: state. */
+public final class Promise15Test {
+    private static final Due DUE = new Due();
+
+    public static void main(String[] args) {
+        ChainPeers x = new ChainPeers(1, 5);
+        is(x, 1, 0, 0, 0, 0);
+        x.seal(1, 8, 1);
+        is(x, 2, 1, 1, 0, 0);
+        x.tick(7);
+        Talk.ready(x, 0, 1, 9);
+        x.work();
+        is(x, 2, 1, 1, 7, 1);
+        int[] one = {x.block(1, 0), x.block(1, 1), x.block(1, 2), x.block(1, 3), x.block(1, 4)};
+        int[] two = Code.child(one, 2, 8, 3);
+        int[] three = Code.child(two, 3, 8, 4);
+        Talk.give(x, 0, Code.headers(1, two, three));
+        is(x, 4, 3, 1, 7, 1);
+        x.work();
+        Talk.give(x, 0, Code.body(2, 3));
+        is(x, 4, 3, 2, 7, 2);
+        Talk.ready(x, 1, 1, 9);
+        x.work();
+        x.tick(6);
+        is(x, 4, 3, 2, 13, 4);
+        for (int which : new int[] {-1, 5, Integer.MIN_VALUE, Integer.MAX_VALUE}) {
+            DUE.is("state(" + which + ")", x.state(which), ChainPeers.NONE);
+        }
+        sameTotals();
+        DUE.end();
+    }
+
+    /** Of several with the greatest TOTAL the least is HEAVIEST, and the least of those IMPORTED is HEAD. */
+    private static void sameTotals() {
+        ChainPeers x = new ChainPeers(1, 5);
+        Talk.ready(x, 0, 1, 9);
+        x.work();
+        Talk.give(x, 0, Code.headers(1, Code.child(Code.GENESIS, 4, 9, 6)));
+        x.seal(5, 9, 7);
+        is(x, 3, 1, 2, 0, 1);
+        x.work();
+        Talk.give(x, 0, Code.body(2, 6));
+        is(x, 3, 1, 1, 0, 2);
+    }
+
+    private static void is(ChainPeers x, int... want) {
+        for (int which = 0; which < 5; which++) {
+            DUE.is("state(" + which + ")", x.state(which), want[which]);
+        }
+    }
+}
