@@ -1,18 +1,24 @@
 import java.util.ArrayList;
+import java.util.Collections;
 import java.util.List;
 import java.util.Random;
 
 /** All promises: runs of calls, always the same ones, on the program and on PlainNode side by side. */
 public final class AgainstPlainNodeTest {
-    private static final int RUNS = 600;
-    private static final int CALLS = 512;
+    private static final int RUNS = 6000;
     private static final int[] EDGES = {
         Integer.MIN_VALUE, -2, -1, 0, 1, 2, 3, 4, 5, 8, 9, 19, 20, 50, 51, 55, 56, Integer.MAX_VALUE
     };
 
+    private static final int STATE = 0;
+    private static final int PEER = 1;
+    private static final int WIRE = 2;
+    private static final int BLOCK = 3;
+    private static final int TX = 4;
+
     private final Due due = new Due();
     private final Random random;
-    private final ChainPeers x;
+    private final Node x;
     private final PlainNode plain;
     private final String run;
     // Headers that strangers may tell of, known to the node or not, and the bodies that match them.
@@ -20,15 +26,17 @@ public final class AgainstPlainNodeTest {
     private final List<int[]> bodies = new ArrayList<>();
     // How often strangers err in this run: 0 never, 1 seldom, 2 often. If they always did, all would be banned soon.
     private final int malice;
-    private int calls;
+    // A run acts while more calls than this are left to the object; the rest are for looking at what has become of it.
+    private final int callsToLook;
 
     private AgainstPlainNodeTest(int seed) {
         random = new Random(seed);
         malice = seed % 3;
-        run = "run " + seed + ", call ";
+        run = "run " + seed + ", ";
+        callsToLook = 20 + random.nextInt(400);
         int chain = random.nextInt(4) == 0 ? number() : random.nextInt(3) - 1;
         int wait = random.nextInt(4) == 0 ? anyInt() : random.nextInt(12);
-        x = new ChainPeers(chain, wait);
+        x = new Node(chain, wait);
         plain = new PlainNode(chain, wait);
         headers.add(Code.GENESIS);
         bodies.add(new int[0]);
@@ -55,7 +63,7 @@ public final class AgainstPlainNodeTest {
         }
         System.out.println(RUNS + " runs: " + full + " full, " + highHead + " with a long chain, " + banned + " banned");
         // Runs that never came far would prove nothing.
-        if (full < RUNS / 10 || highHead < RUNS / 4 || banned < RUNS / 10) {
+        if (full < RUNS / 20 || highHead < RUNS / 4 || banned < RUNS / 10) {
             System.exit(1);
         }
     }
@@ -65,12 +73,23 @@ public final class AgainstPlainNodeTest {
     }
 
     private void play() {
-        while (calls < CALLS && due.wrong() == 0) {
-            int before = calls;
+        // Only a head start brings a run to 20 blocks with enough calls left.
+        int start = random.nextInt(3) == 0 ? 10 + random.nextInt(12) : random.nextInt(2);
+        for (int i = 0; i < start; i++) {
+            int[] head = plain.greatest(true).header;
+            seal(head[2] + 1, head[3], random.nextInt(4) - 1);
+        }
+        while (x.callsLeft() > callsToLook && due.wrong() == 0) {
             step();
-            if (calls > before) {
-                compare();
+            if (random.nextInt(3) == 0) {
+                List<int[]> views = views();
+                look(views.get(random.nextInt(views.size())));
             }
+        }
+        List<int[]> views = views();
+        Collections.shuffle(views, random);
+        for (int i = 0; i < views.size() && x.callsLeft() > 0; i++) {
+            look(views.get(i));
         }
     }
 
@@ -104,7 +123,7 @@ public final class AgainstPlainNodeTest {
                 break;
             case 10:
                 if (random.nextInt(4) == 0) {
-                    seal();
+                    sealAnything();
                 }
                 break;
             case 11:
@@ -124,8 +143,7 @@ public final class AgainstPlainNodeTest {
     }
 
     private void is(String call, int got, int want) {
-        calls++;
-        due.is(run + calls + ": " + call, got, want);
+        due.is(run + x.callsLeft() + " calls before its end: " + call, got, want);
     }
 
     private void putAnything() {
@@ -134,11 +152,15 @@ public final class AgainstPlainNodeTest {
         is("put(" + n + ", " + bytes + ")", x.put(n, bytes), plain.put(n, bytes));
     }
 
-    private void seal() {
+    private void sealAnything() {
         int[] head = plain.greatest(true).header;
         int time = random.nextInt(8) == 0 ? anyInt() : head[2] + random.nextInt(3);
         int weight = random.nextInt(8) == 0 ? anyInt() : head[3] + random.nextInt(2 * (head[3] / 4 + 2) + 1) - head[3] / 4 - 2;
         int tx = random.nextInt(3) == 0 ? anyInt() : random.nextInt(4) - 1;
+        seal(time, weight, tx);
+    }
+
+    private void seal(int time, int weight, int tx) {
         int want = plain.seal(time, weight, tx);
         is("seal(" + time + ", " + weight + ", " + tx + ")", x.seal(time, weight, tx), want);
         if (want > 0) {
@@ -154,13 +176,10 @@ public final class AgainstPlainNodeTest {
         if (errs(30)) {
             message = spoilt(message);
         }
-        x.clear();
+        Talk.lay(x, message);
         plain.clear();
         for (int b : message) {
-            if (plain.wire(-1) < 56) {
-                is("put(1, " + b + ")", x.put(1, b), plain.put(1, b));
-                calls--;
-            }
+            plain.put(1, b);
         }
         is("receive(" + p + ")", x.receive(p), plain.receive(p));
     }
@@ -282,31 +301,52 @@ public final class AgainstPlainNodeTest {
         return random.nextInt(3) == 0 ? random.nextInt() : EDGES[random.nextInt(EDGES.length)];
     }
 
-    private void compare() {
-        for (int which = -1; which < 6; which++) {
-            same("state", which, 0, x.state(which), plain.state(which));
-        }
-        for (int p = -1; p < 5; p++) {
-            for (int which = -1; which < 7; which++) {
-                same("peer", p, which, x.peer(p, which), plain.peer(p, which));
+    /** What there is to look at now, and its neighbours that are not there: a call with its two arguments. */
+    private List<int[]> views() {
+        List<int[]> views = new ArrayList<>();
+        addViews(views, STATE, 5, 0);
+        addViews(views, PEER, 4, 6);
+        addViews(views, WIRE, plain.wire(-1), 0);
+        addViews(views, BLOCK, plain.blocks.size(), 9);
+        for (int k = 0; k < plain.blocks.size(); k++) {
+            for (int i = -1; i <= Math.max(0, plain.block(k, 7)); i++) {
+                views.add(new int[] {TX, k, i});
             }
         }
-        for (int k = -2; k < 57; k++) {
-            same("wire", k, 0, x.wire(k), plain.wire(k));
-        }
-        for (int k = -1; k <= plain.blocks.size(); k++) {
-            for (int which = -1; which < 10; which++) {
-                same("block", k, which, x.block(k, which), plain.block(k, which));
-            }
-            for (int i = -1; i < 9; i++) {
-                same("tx", k, i, x.tx(k, i), plain.tx(k, i));
+        return views;
+    }
+
+    private static void addViews(List<int[]> views, int call, int firsts, int seconds) {
+        for (int first = -1; first <= firsts; first++) {
+            for (int second = -1; second <= seconds; second++) {
+                boolean isThere = first >= 0 && first < firsts && second >= 0 && second < seconds;
+                // One neighbour of each is enough, or they would crowd out the rest.
+                if (isThere || first == second || second == 0 || second == seconds && first == 0) {
+                    views.add(new int[] {call, first, second});
+                }
             }
         }
     }
 
-    private void same(String view, int first, int second, int got, int want) {
-        if (got != want) {
-            due.is(run + calls + ": then " + view + " of " + first + ", " + second, got, want);
+    private void look(int[] view) {
+        int a = view[1];
+        int b = view[2];
+        switch (view[0]) {
+            case STATE:
+                is("state(" + a + ")", x.state(a), plain.state(a));
+                break;
+            case PEER:
+                is("peer(" + a + ", " + b + ")", x.peer(a, b), plain.peer(a, b));
+                break;
+            case WIRE:
+                is("wire(" + a + ")", x.wire(a), plain.wire(a));
+                break;
+            case BLOCK:
+                is("block(" + a + ", " + b + ")", x.block(a, b), plain.block(a, b));
+                break;
+            default:
+                is("tx(" + a + ", " + b + ")", x.tx(a, b), plain.tx(a, b));
+                break;
         }
     }
 }

@@ -30,6 +30,17 @@ final class Code {
         return item(items);
     }
 
+    /** A list's code from the codes of its items, which need not be right ones. */
+    static int[] listOfCodes(int[]... codes) {
+        List<Integer> inner = new ArrayList<>();
+        for (int[] code : codes) {
+            for (int b : code) {
+                inner.add(b);
+            }
+        }
+        return joined(192 + inner.size(), inner);
+    }
+
     static int[] hello(int chain, int best) {
         return list(0, chain, best);
     }

@@ -2,12 +2,18 @@
 final class Due {
     private int checks;
     private int wrong;
+    private String sentence = "";
+
+    /** Names the sentence of the document that the answers from here on are held against. */
+    void sentence(String words) {
+        sentence = "[" + words + "] ";
+    }
 
     void is(String call, long got, long want) {
         checks++;
         if (got != want) {
             wrong++;
-            System.out.println(call + " answered " + got + ", due is " + want);
+            System.out.println(sentence + call + " answered " + got + ", due is " + want);
         }
     }
 
@@ -15,13 +21,16 @@ final class Due {
         is(call, got ? 1 : 0, want ? 1 : 0);
     }
 
-    void bytes(String call, int[] got, int[] want) {
+    void is(String call, String got, String want) {
         checks++;
-        if (!java.util.Arrays.equals(got, want)) {
+        if (!got.equals(want)) {
             wrong++;
-            System.out.println(call + " gave " + java.util.Arrays.toString(got)
-                + ", due is " + java.util.Arrays.toString(want));
+            System.out.println(sentence + call + " gave " + got + ", due is " + want);
         }
+    }
+
+    void bytes(String call, int[] got, int[] want) {
+        is(call, java.util.Arrays.toString(got), java.util.Arrays.toString(want));
     }
 
     int wrong() {

@@ -21,7 +21,7 @@ public final class Promise01Test {
     }
 
     private static void chainIs(int given, int chain) {
-        ChainPeers x = new ChainPeers(given, 1);
+        Node x = new Node(given, 1);
         x.open(0);
         DUE.bytes("HELLO of chain " + given, Talk.sent(x, 0), Code.hello(chain, 0));
         DUE.is("HELLO of chain " + chain, Talk.give(x, 0, Code.hello(chain, 5)), 0);
@@ -29,7 +29,7 @@ public final class Promise01Test {
     }
 
     private static void waitIs(int given, int wait) {
-        ChainPeers x = new ChainPeers(1, given);
+        Node x = new Node(1, given);
         Talk.ready(x, 0, 1, 9);
         x.work();
         DUE.is("wait " + given + ": tick(" + wait + ")", x.tick(wait), 0);
@@ -37,7 +37,7 @@ public final class Promise01Test {
     }
 
     private static void startsEmpty() {
-        ChainPeers x = new ChainPeers(1, 1);
+        Node x = new Node(1, 1);
         int[] states = {1, 0, 0, 0, 0};
         for (int which = 0; which < 5; which++) {
             DUE.is("new: state(" + which + ")", x.state(which), states[which]);

@@ -12,7 +12,7 @@ public final class Promise02Test {
     }
 
     private static void everyPeer() {
-        ChainPeers x = new ChainPeers(300, 1);
+        Node x = new Node(300, 1);
         for (int p = 0; p < 4; p++) {
             DUE.is("open", x.open(p), true);
             DUE.is("GREETING", x.peer(p, Talk.STATE), Talk.GREETING);
@@ -22,7 +22,7 @@ public final class Promise02Test {
     }
 
     private static void noSuchPeer() {
-        ChainPeers x = new ChainPeers(1, 1);
+        Node x = new Node(1, 1);
         String before = Talk.view(x);
         for (int p : new int[] {-1, 4, Integer.MIN_VALUE, Integer.MAX_VALUE}) {
             DUE.is("open(" + p + ")", x.open(p), false);
@@ -31,7 +31,7 @@ public final class Promise02Test {
     }
 
     private static void onlyIfClosed() {
-        ChainPeers x = new ChainPeers(1, 1);
+        Node x = new Node(1, 1);
         x.open(2);
         DUE.is("open a GREETING one", x.open(2), false);
         DUE.is("its outbox", x.peer(2, Talk.OUTBOX), 1);
@@ -45,7 +45,7 @@ public final class Promise02Test {
     }
 
     private static void resetsBestAndBackButNotScore() {
-        ChainPeers x = new ChainPeers(1, 9);
+        Node x = new Node(1, 9);
         Talk.ready(x, 0, 1, 9);
         x.work();
         Talk.give(x, 0, Code.headers(1, new int[] {5, 1, 1, 8, 0}));
@@ -60,7 +60,7 @@ public final class Promise02Test {
     }
 
     private static void tellsNumberOfHead() {
-        ChainPeers x = new ChainPeers(1, 9);
+        Node x = new Node(1, 9);
         x.seal(1, 8, 1);
         x.seal(2, 8, 1);
         x.open(3);

@@ -3,7 +3,7 @@ public final class Promise03Test {
     private static final Due DUE = new Due();
 
     public static void main(String[] args) {
-        ChainPeers x = new ChainPeers(1, 1);
+        Node x = new Node(1, 1);
         for (int p : new int[] {-1, 0, 3, 4, Integer.MIN_VALUE, Integer.MAX_VALUE}) {
             DUE.is("close(" + p + ") of a new object", x.close(p), false);
         }

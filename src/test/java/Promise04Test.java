@@ -6,12 +6,12 @@ public final class Promise04Test {
         long bytes = 0x8123456789abcdefL;
         int[] all = {0x81, 0x23, 0x45, 0x67, 0x89, 0xab, 0xcd, 0xef};
         for (int n = 1; n <= 8; n++) {
-            ChainPeers x = new ChainPeers(1, 1);
+            Node x = new Node(1, 1);
             DUE.is("put(" + n + ")", x.put(n, bytes), true);
             DUE.bytes("wire", Talk.onWire(x), java.util.Arrays.copyOfRange(all, 8 - n, 8));
         }
         for (int n : new int[] {0, 9, -1, 64, Integer.MIN_VALUE, Integer.MAX_VALUE}) {
-            ChainPeers x = new ChainPeers(1, 1);
+            Node x = new Node(1, 1);
             x.put(1, 5);
             DUE.is("put(" + n + ")", x.put(n, bytes), false);
             DUE.bytes("wire as it was", Talk.onWire(x), new int[] {5});
@@ -21,7 +21,7 @@ public final class Promise04Test {
     }
 
     private static void fills() {
-        ChainPeers x = new ChainPeers(1, 1);
+        Node x = new Node(1, 1);
         for (int i = 0; i < 6; i++) {
             DUE.is("put(8)", x.put(8, -1L), true);
         }

@@ -2,7 +2,7 @@
 public final class Promise05Test {
     public static void main(String[] args) {
         Due due = new Due();
-        ChainPeers x = new ChainPeers(1, 1);
+        Node x = new Node(1, 1);
         x.clear();
         due.is("clear an empty wire", x.wire(-1), 0);
         Talk.lay(x, 1, 2, 3);

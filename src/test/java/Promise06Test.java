@@ -2,7 +2,7 @@
 public final class Promise06Test {
     public static void main(String[] args) {
         Due due = new Due();
-        ChainPeers x = new ChainPeers(1, 1);
+        Node x = new Node(1, 1);
         due.is("wire(-1)", x.wire(-1), 0);
         due.is("wire(0)", x.wire(0), ChainPeers.NONE);
         x.put(3, 0xff0080);

@@ -17,7 +17,7 @@ public final class Promise07CodesTest {
 
     /** What a READY peer is answered for these bytes, before any request was made. */
     private static void due(String name, int want, int... bytes) {
-        ChainPeers x = new ChainPeers(1, 9);
+        Node x = new Node(1, 9);
         Talk.ready(x, 0, 1, 0);
         DUE.is(name, Talk.give(x, 0, bytes), want);
         DUE.bytes(name + ": the wire stays", Talk.onWire(x), bytes);
@@ -162,13 +162,13 @@ public final class Promise07CodesTest {
     }
 
     private static void oneShortWire(int want, int... bytes) {
-        ChainPeers x = new ChainPeers(1, 9);
+        Node x = new Node(1, 9);
         x.open(0);
         DUE.is(java.util.Arrays.toString(bytes), Talk.give(x, 0, bytes), want);
     }
 
     private static void faultOfFour() {
-        ChainPeers x = new ChainPeers(1, 9);
+        Node x = new Node(1, 9);
         x.open(1);
         DUE.is("BROKEN, GREETING", Talk.give(x, 1, 195, 128), B);
         DUE.is("SCORE", x.peer(1, Talk.SCORE), -4);

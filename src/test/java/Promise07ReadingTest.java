@@ -26,15 +26,15 @@ public final class Promise07ReadingTest {
         DUE.end();
     }
 
-    private static ChainPeers node(int best) {
-        ChainPeers x = new ChainPeers(1, 9);
+    private static Node node(int best) {
+        Node x = new Node(1, 9);
         Talk.ready(x, 0, 1, best);
         return x;
     }
 
     /** A node that knows ONE, TWO and THREE and has the bodies of the first bodies of them. */
-    private static ChainPeers grown(int bodies) {
-        ChainPeers x = node(99);
+    private static Node grown(int bodies) {
+        Node x = node(99);
         x.work();
         Talk.give(x, 0, Code.headers(1, ONE, TWO, THREE));
         int[][] all = {{4, 5}, {}, {6}};
@@ -51,7 +51,7 @@ public final class Promise07ReadingTest {
     private static void greeting() {
         int[][] wrong = {Code.askHeaders(1, 1, 1), Code.headers(0), Code.headers(1, ONE), Code.askBody(1, 1), Code.body(0)};
         for (int[] message : wrong) {
-            ChainPeers x = new ChainPeers(1, 9);
+            Node x = new Node(1, 9);
             x.open(0);
             DUE.is("GREETING: kind " + message[1], Talk.give(x, 0, message), ODD);
             DUE.is("a FAULT of 2", x.peer(0, Talk.SCORE), -2);
@@ -61,7 +61,7 @@ public final class Promise07ReadingTest {
             DUE.is("BANNED", x.peer(0, Talk.STATE), Talk.BANNED);
             DUE.is("SCORE", x.peer(0, Talk.SCORE), -4);
         }
-        ChainPeers x = new ChainPeers(1, 9);
+        Node x = new Node(1, 9);
         x.open(0);
         DUE.is("BYE", Talk.give(x, 0, Code.bye()), 5);
         DUE.is("CLOSED", x.peer(0, Talk.STATE), Talk.CLOSED);
@@ -81,7 +81,7 @@ public final class Promise07ReadingTest {
     }
 
     private static void helloAndByeOfReady() {
-        ChainPeers x = node(3);
+        Node x = node(3);
         DUE.is("HELLO of a READY one", Talk.give(x, 0, Code.hello(1, 8)), ODD);
         DUE.is("a FAULT of 2", x.peer(0, Talk.SCORE), -2);
         DUE.is("BEST stays", x.peer(0, Talk.BEST), 3);
@@ -94,7 +94,7 @@ public final class Promise07ReadingTest {
         DUE.is("BEST stays", x.peer(0, Talk.BEST), 3);
     }
 
-    private static void asked(ChainPeers x, int from, int count, int[]... want) {
+    private static void asked(Node x, int from, int count, int[]... want) {
         String name = "ASK-HEADERS from " + from + ", " + count;
         DUE.is(name, Talk.give(x, 0, Code.askHeaders(77, from, count)), 1);
         DUE.bytes(name, Talk.sent(x, 0), Code.headers(77, want));
@@ -102,7 +102,7 @@ public final class Promise07ReadingTest {
     }
 
     private static void askHeaders() {
-        ChainPeers x = grown(3);
+        Node x = grown(3);
         asked(x, 0, 2, Code.GENESIS, ONE);
         asked(x, 0, 1, Code.GENESIS);
         asked(x, 0, 0);
@@ -120,7 +120,7 @@ public final class Promise07ReadingTest {
     }
 
     private static void askBody() {
-        ChainPeers x = grown(2);
+        Node x = grown(2);
         DUE.is("a body", Talk.give(x, 0, Code.askBody(300, Code.hash(ONE))), 3);
         DUE.bytes("BODY", Talk.sent(x, 0), Code.body(300, 4, 5));
         Talk.give(x, 0, Code.askBody(0, Code.GENESIS_HASH));
@@ -135,7 +135,7 @@ public final class Promise07ReadingTest {
     }
 
     private static void headersNotAskedFor() {
-        ChainPeers x = node(9);
+        Node x = node(9);
         DUE.is("no request", Talk.give(x, 0, Code.headers(0)), ODD);
         DUE.is("a FAULT of 1", x.peer(0, Talk.SCORE), -1);
         x.work();
@@ -151,7 +151,7 @@ public final class Promise07ReadingTest {
     }
 
     private static void emptyHeaders() {
-        ChainPeers x = node(99);
+        Node x = node(99);
         x.seal(1, 8, 1);
         x.seal(2, 8, 1);
         x.work();
@@ -159,7 +159,7 @@ public final class Promise07ReadingTest {
         DUE.is("BEST", x.peer(0, Talk.BEST), 2);
         DUE.is("done", x.peer(0, Talk.REQUEST), 0);
         DUE.is("neither MERIT nor FAULT", x.peer(0, Talk.SCORE), 0);
-        ChainPeers y = node(99);
+        Node y = node(99);
         y.work();
         Talk.give(y, 0, Code.headers(1, new int[] {5, 1, 1, 8, 0}));
         y.work();
@@ -169,21 +169,21 @@ public final class Promise07ReadingTest {
     }
 
     private static void headersFromElsewhere() {
-        ChainPeers x = node(99);
+        Node x = node(99);
         x.work();
         DUE.is("NUMBER is not from", Talk.give(x, 0, Code.headers(1, TWO)), ODD);
         DUE.is("a FAULT of 2", x.peer(0, Talk.SCORE), -2);
         DUE.is("done", x.peer(0, Talk.REQUEST), 0);
         DUE.is("BACK", x.peer(0, Talk.BACK), 0);
         DUE.is("BEST", x.peer(0, Talk.BEST), 99);
-        ChainPeers y = node(99);
+        Node y = node(99);
         y.work();
         DUE.is("block 0 is not from 1 on", Talk.give(y, 0, Code.headers(1, Code.GENESIS, ONE)), ODD);
         DUE.is("no block", y.state(0), 1);
     }
 
     private static void unknownHeaders() {
-        ChainPeers x = node(99);
+        Node x = node(99);
         for (int back = 1; back <= 3; back++) {
             x.work();
             int[] stranger = {1000 + back, 1, 1, 8, 0};
@@ -202,7 +202,7 @@ public final class Promise07ReadingTest {
     }
 
     private static void takenHeaders() {
-        ChainPeers x = node(99);
+        Node x = node(99);
         x.work();
         DUE.is("three, though two were asked for", Talk.give(x, 0, Code.headers(1, ONE, TWO, THREE)), 2);
         DUE.is("blocks", x.state(0), 4);
@@ -217,26 +217,26 @@ public final class Promise07ReadingTest {
         }
         DUE.is("no body, though its ROOT is that of the empty one", x.block(2, 7), -1);
         DUE.is("not IMPORTED", x.block(2, 8), 0);
-        ChainPeers y = node(99);
+        Node y = node(99);
         y.work();
         int[] bad = Code.child(TWO, 2, 9);
         DUE.is("the third is not GOOD", Talk.give(y, 0, Code.headers(1, ONE, TWO, bad)), ODD);
         DUE.is("the first two stay", y.state(0), 3);
         DUE.is("a FAULT of 2", y.peer(0, Talk.SCORE), -2);
-        ChainPeers z = node(99);
+        Node z = node(99);
         z.work();
         DUE.is("the second is not GOOD", Talk.give(z, 0, Code.headers(1, ONE, Code.child(ONE, 1, 9), TWO)), ODD);
         DUE.is("the rest is passed over", z.state(0), 2);
     }
 
     private static void unlinkedHeaders() {
-        ChainPeers x = node(99);
+        Node x = node(99);
         x.work();
         int[] brother = Code.child(Code.GENESIS, 5, 7);
         DUE.is("GOOD, but not behind the one before", Talk.give(x, 0, Code.headers(1, ONE, brother)), ODD);
         DUE.is("the first stays", x.state(0), 2);
         DUE.is("a FAULT of 2", x.peer(0, Talk.SCORE), -2);
-        ChainPeers y = node(99);
+        Node y = node(99);
         y.work();
         Talk.give(y, 0, Code.headers(1, ONE));
         y.work();
@@ -249,7 +249,7 @@ public final class Promise07ReadingTest {
     }
 
     private static void knownHeaders() {
-        ChainPeers x = new ChainPeers(1, 9);
+        Node x = new Node(1, 9);
         Talk.ready(x, 0, 1, 99);
         Talk.ready(x, 1, 1, 99);
         Talk.ready(x, 2, 1, 99);
@@ -280,7 +280,7 @@ public final class Promise07ReadingTest {
 
     /** What is the answer to a header behind block 1, which has the WEIGHT w, with weight and time as given. */
     private static int takes(int w, int time, int weight, int number) {
-        ChainPeers x = new ChainPeers(1, 9);
+        Node x = new Node(1, 9);
         int near = 8;
         int last = 0;
         // Seals its way to a block of that WEIGHT.
@@ -308,7 +308,7 @@ public final class Promise07ReadingTest {
         DUE.is("the latest TIME", takes(8, Integer.MAX_VALUE, 8, 1), 2);
         // The first header's NUMBER is looked at before, so only a later one can be wrong by its NUMBER alone.
         for (int number : new int[] {0, 1, 3, Integer.MAX_VALUE}) {
-            ChainPeers x = node(99);
+            Node x = node(99);
             x.work();
             int[] second = TWO.clone();
             second[1] = number;
@@ -318,7 +318,7 @@ public final class Promise07ReadingTest {
     }
 
     private static void fullOfBlocks() {
-        ChainPeers x = node(99);
+        Node x = node(99);
         for (int i = 1; i < 19; i++) {
             DUE.is("seal", x.seal(i, 8, i), i);
         }
@@ -332,7 +332,7 @@ public final class Promise07ReadingTest {
         DUE.is("the last one", x.block(19, 5), Code.hash(a));
         DUE.is("a MERIT", x.peer(0, Talk.SCORE), 1);
         DUE.is("no block 20", x.block(20, 0), ChainPeers.NONE);
-        ChainPeers y = node(99);
+        Node y = node(99);
         Talk.ready(y, 1, 1, 99);
         y.work();
         for (int i = 1; i < 20; i++) {
@@ -346,7 +346,7 @@ public final class Promise07ReadingTest {
     }
 
     private static void bodies() {
-        ChainPeers x = grown(0);
+        Node x = grown(0);
         DUE.is("no request", Talk.give(x, 0, Code.body(0)), ODD);
         DUE.is("a FAULT of 1", x.peer(0, Talk.SCORE), 0);
         x.work();
@@ -374,18 +374,18 @@ public final class Promise07ReadingTest {
         DUE.is("another order or number of numbers", Talk.give(x, 0, Code.body(5, 6, 6)), ODD);
         DUE.is("BANNED", x.peer(0, Talk.STATE), Talk.BANNED);
         DUE.is("SCORE", x.peer(0, Talk.SCORE), -4);
-        ChainPeers y = grown(0);
+        Node y = grown(0);
         y.work();
         DUE.is("the wrong order", Talk.give(y, 0, Code.body(2, 5, 4)), ODD);
         // The ROOT alone is looked at, and that of the one number 1 is 0, as is that of the empty body.
-        ChainPeers z = grown(1);
+        Node z = grown(1);
         z.work();
         DUE.is("another body of the same ROOT", Talk.give(z, 0, Code.body(3, 1)), 4);
         DUE.is("it is the body", z.tx(2, 0), 1);
     }
 
     private static void bodiesOutOfOrder() {
-        ChainPeers x = grown(0);
+        Node x = grown(0);
         Talk.ready(x, 1, 1, 99);
         Talk.ready(x, 2, 1, 99);
         DUE.is("three bodies are asked for", x.work(), 3);
@@ -401,7 +401,7 @@ public final class Promise07ReadingTest {
     }
 
     private static void meritsAndFaults() {
-        ChainPeers x = grown(3);
+        Node x = grown(3);
         DUE.is("never above 3", x.peer(0, Talk.SCORE), 3);
         x.work();
         int[] four = Code.child(THREE, 4, 10);

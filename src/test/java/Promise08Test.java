@@ -12,7 +12,7 @@ public final class Promise08Test {
     }
 
     private static void nothingToSend() {
-        ChainPeers x = new ChainPeers(1, 1);
+        Node x = new Node(1, 1);
         Talk.lay(x, 7, 8);
         for (int p : new int[] {-1, 0, 3, 4, Integer.MIN_VALUE, Integer.MAX_VALUE}) {
             DUE.is("send(" + p + ")", x.send(p), ChainPeers.NONE);
@@ -21,7 +21,7 @@ public final class Promise08Test {
     }
 
     private static void firstInFirstOut() {
-        ChainPeers x = new ChainPeers(1, 1);
+        Node x = new Node(1, 1);
         x.open(0);
         x.open(1);
         Talk.give(x, 0, Code.hello(1, 0));
@@ -43,7 +43,7 @@ public final class Promise08Test {
     }
 
     private static void lostIfThereAreFour() {
-        ChainPeers x = new ChainPeers(1, 1);
+        Node x = new Node(1, 1);
         Talk.ready(x, 0, 1, 9);
         for (int id = 1; id <= 6; id++) {
             DUE.is("ASK-HEADERS", Talk.give(x, 0, Code.askHeaders(id, 5, 1)), 1);
@@ -63,7 +63,7 @@ public final class Promise08Test {
     }
 
     private static void everyKind() {
-        ChainPeers x = new ChainPeers(1, 1);
+        Node x = new Node(1, 1);
         x.open(0);
         DUE.bytes("HELLO", Talk.sent(x, 0), new int[] {195, 128, 1, 128});
         Talk.give(x, 0, Code.hello(1, 9));
@@ -82,7 +82,7 @@ public final class Promise08Test {
 
     private static void longestMessages() {
         int big = Integer.MAX_VALUE;
-        ChainPeers x = new ChainPeers(big, 1);
+        Node x = new Node(big, 1);
         int[] body = {big, big, big, big, big, big, big, big};
         int[] one = Code.child(Code.GENESIS, big - 1, 8, body);
         int[] two = Code.child(one, big, 8, body);

@@ -17,7 +17,7 @@ public final class Promise09Test {
     }
 
     private static void onlyReadyPeers() {
-        ChainPeers x = new ChainPeers(1, 5);
+        Node x = new Node(1, 5);
         x.open(0);
         Talk.ready(x, 1, 1, 9);
         x.open(2);
@@ -36,7 +36,7 @@ public final class Promise09Test {
     }
 
     private static void bestAtLeastFrom() {
-        ChainPeers x = new ChainPeers(1, 5);
+        Node x = new Node(1, 5);
         Talk.ready(x, 0, 1, 0);
         DUE.is("BEST 0, from 1", x.work(), 0);
         DUE.is("no id is used", x.state(4), 0);
@@ -49,7 +49,7 @@ public final class Promise09Test {
     }
 
     private static void back() {
-        ChainPeers x = new ChainPeers(1, 5);
+        Node x = new Node(1, 5);
         Talk.ready(x, 0, 1, 9);
         for (int i = 1; i <= 3; i++) {
             x.seal(i, 8, i);
@@ -64,7 +64,7 @@ public final class Promise09Test {
     }
 
     private static void bodiesFirst() {
-        ChainPeers x = new ChainPeers(1, 5);
+        Node x = new Node(1, 5);
         Talk.ready(x, 0, 1, 9);
         x.work();
         x.send(0);
@@ -87,7 +87,7 @@ public final class Promise09Test {
     }
 
     private static void bodiesOfTheHeaviestChainAlone() {
-        ChainPeers x = new ChainPeers(1, 5);
+        Node x = new Node(1, 5);
         Talk.ready(x, 0, 1, 9);
         Talk.ready(x, 1, 1, 9);
         x.work();
@@ -103,7 +103,7 @@ public final class Promise09Test {
         // Of two with the same TOTAL the least is HEAVIEST.
         Talk.give(x, 1, Code.headers(4));
         x.tick(6);
-        ChainPeers y = new ChainPeers(1, 5);
+        Node y = new Node(1, 5);
         Talk.ready(y, 0, 1, 9);
         Talk.ready(y, 1, 1, 9);
         y.work();
@@ -113,7 +113,7 @@ public final class Promise09Test {
     }
 
     private static void afterATimeoutAnotherIsAsked() {
-        ChainPeers x = new ChainPeers(1, 1);
+        Node x = new Node(1, 1);
         Talk.ready(x, 3, 1, 9);
         x.work();
         x.send(3);
@@ -131,7 +131,7 @@ public final class Promise09Test {
     }
 
     private static void noHeadersWhenFull() {
-        ChainPeers x = new ChainPeers(1, 5);
+        Node x = new Node(1, 5);
         Talk.ready(x, 0, 1, 99);
         for (int i = 1; i < 19; i++) {
             x.seal(i, 8, i);
@@ -146,7 +146,7 @@ public final class Promise09Test {
     }
 
     private static void ids() {
-        ChainPeers x = new ChainPeers(1, 1);
+        Node x = new Node(1, 1);
         for (int p = 0; p < 4; p++) {
             Talk.ready(x, p, 1, 9);
         }

@@ -3,7 +3,7 @@ public final class Promise10Test {
     private static final Due DUE = new Due();
 
     public static void main(String[] args) {
-        ChainPeers x = new ChainPeers(1, 3);
+        Node x = new Node(1, 3);
         for (int n : new int[] {-1, 51, Integer.MIN_VALUE, Integer.MAX_VALUE}) {
             DUE.is("tick(" + n + ")", x.tick(n), ChainPeers.NONE);
             DUE.is("TIME stays", x.state(3), 0);
@@ -19,7 +19,7 @@ public final class Promise10Test {
     }
 
     private static void deadline() {
-        ChainPeers x = new ChainPeers(1, 3);
+        Node x = new Node(1, 3);
         x.tick(4);
         Talk.ready(x, 2, 1, 9);
         x.work();
@@ -36,7 +36,7 @@ public final class Promise10Test {
     }
 
     private static void several() {
-        ChainPeers x = new ChainPeers(1, 3);
+        Node x = new Node(1, 3);
         Talk.ready(x, 0, 1, 9);
         Talk.ready(x, 3, 1, 9);
         x.work();
@@ -52,7 +52,7 @@ public final class Promise10Test {
     }
 
     private static void bans() {
-        ChainPeers x = new ChainPeers(1, 1);
+        Node x = new Node(1, 1);
         Talk.ready(x, 0, 1, 9);
         for (int score = -1; score >= -4; score--) {
             x.work();

@@ -12,7 +12,7 @@ public final class Promise11Test {
     }
 
     private static void ordinary() {
-        ChainPeers x = new ChainPeers(1, 1);
+        Node x = new Node(1, 1);
         DUE.is("seal", x.seal(4, 9, 6), 1);
         int[] one = Code.child(Code.GENESIS, 4, 9, 6);
         for (int i = 0; i < 5; i++) {
@@ -38,7 +38,7 @@ public final class Promise11Test {
     }
 
     private static void notGood() {
-        ChainPeers x = new ChainPeers(1, 1);
+        Node x = new Node(1, 1);
         String before = Talk.view(x);
         for (int time : new int[] {0, -1, Integer.MIN_VALUE}) {
             DUE.is("TIME " + time, x.seal(time, 8, 1), ChainPeers.NONE);
@@ -48,9 +48,9 @@ public final class Promise11Test {
         }
         DUE.is("nothing changed", before.equals(Talk.view(x)), true);
         for (int weight : new int[] {5, 11}) {
-            DUE.is("WEIGHT " + weight, new ChainPeers(1, 1).seal(1, weight, 1), 1);
+            DUE.is("WEIGHT " + weight, new Node(1, 1).seal(1, weight, 1), 1);
         }
-        ChainPeers light = new ChainPeers(1, 1);
+        Node light = new Node(1, 1);
         int[] down = {5, 3, 2, 1, 1};
         for (int i = 0; i < down.length; i++) {
             DUE.is("down to " + down[i], light.seal(i + 1, down[i], 1), i + 1);
@@ -61,7 +61,7 @@ public final class Promise11Test {
     }
 
     private static void knownAlready() {
-        ChainPeers x = new ChainPeers(1, 1);
+        Node x = new Node(1, 1);
         Talk.ready(x, 0, 1, 9);
         x.work();
         Talk.give(x, 0, Code.headers(1, Code.child(Code.GENESIS, 4, 9, 6)));
@@ -72,7 +72,7 @@ public final class Promise11Test {
     }
 
     private static void behindHead() {
-        ChainPeers x = new ChainPeers(1, 1);
+        Node x = new Node(1, 1);
         Talk.ready(x, 0, 1, 9);
         x.work();
         int[] one = Code.child(Code.GENESIS, 4, 11, 6);
@@ -90,7 +90,7 @@ public final class Promise11Test {
     }
 
     private static void full() {
-        ChainPeers x = new ChainPeers(1, 1);
+        Node x = new Node(1, 1);
         for (int i = 1; i < 20; i++) {
             DUE.is("seal " + i, x.seal(i, 8, i), i);
         }

@@ -3,7 +3,7 @@ public final class Promise12Test {
     private static final Due DUE = new Due();
 
     public static void main(String[] args) {
-        ChainPeers x = new ChainPeers(1, 5);
+        Node x = new Node(1, 5);
         x.seal(1, 8, 1);
         Talk.ready(x, 1, 1, 300);
         x.work();
@@ -27,7 +27,7 @@ public final class Promise12Test {
         DUE.end();
     }
 
-    private static void is(ChainPeers x, int p, int... want) {
+    private static void is(Node x, int p, int... want) {
         for (int which = 0; which < 6; which++) {
             DUE.is("peer(" + p + ", " + which + ")", x.peer(p, which), want[which]);
         }

@@ -3,7 +3,7 @@ public final class Promise13Test {
     private static final Due DUE = new Due();
 
     public static void main(String[] args) {
-        ChainPeers x = new ChainPeers(1, 5);
+        Node x = new Node(1, 5);
         // The hash of block 0 worked out by hand from MIX, so that Code is held against the document, too.
         int h = 7;
         for (int v : new int[] {0, 0, 0, 8, 0}) {
@@ -33,7 +33,7 @@ public final class Promise13Test {
         DUE.end();
     }
 
-    private static void is(ChainPeers x, int k, int... want) {
+    private static void is(Node x, int k, int... want) {
         for (int which = 0; which < 9; which++) {
             DUE.is("block(" + k + ", " + which + ")", x.block(k, which), want[which]);
         }

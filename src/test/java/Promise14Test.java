@@ -2,7 +2,7 @@
 public final class Promise14Test {
     public static void main(String[] args) {
         Due due = new Due();
-        ChainPeers x = new ChainPeers(1, 5);
+        Node x = new Node(1, 5);
         Talk.ready(x, 0, 1, 9);
         x.work();
         int[] body = {0, 1, 127, 128, 255, 256, 70000, Integer.MAX_VALUE};

@@ -3,7 +3,7 @@ public final class Promise15Test {
     private static final Due DUE = new Due();
 
     public static void main(String[] args) {
-        ChainPeers x = new ChainPeers(1, 5);
+        Node x = new Node(1, 5);
         is(x, 1, 0, 0, 0, 0);
         x.seal(1, 8, 1);
         is(x, 2, 1, 1, 0, 0);
@@ -32,7 +32,7 @@ public final class Promise15Test {
 
     /** Of several with the greatest TOTAL the least is HEAVIEST, and the least of those IMPORTED is HEAD. */
     private static void sameTotals() {
-        ChainPeers x = new ChainPeers(1, 5);
+        Node x = new Node(1, 5);
         Talk.ready(x, 0, 1, 9);
         x.work();
         Talk.give(x, 0, Code.headers(1, Code.child(Code.GENESIS, 4, 9, 6)));
@@ -43,7 +43,7 @@ public final class Promise15Test {
         is(x, 3, 1, 1, 0, 2);
     }
 
-    private static void is(ChainPeers x, int... want) {
+    private static void is(Node x, int... want) {
         for (int which = 0; which < 5; which++) {
             DUE.is("state(" + which + ")", x.state(which), want[which]);
         }
