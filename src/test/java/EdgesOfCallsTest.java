@@ -126,6 +126,13 @@ public final class EdgesOfCallsTest {
             x.close(0);
             x.seal(number + 1, 8, -1);
         }
+        // HEAVIEST is a header alone, one above HEAD.
+        Node y = node(9);
+        Talk.seal(y, 3);
+        tell(y, 0, Code.child(Talk.header(y, 3), 9, 8));
+        DUE.is("HEAVIEST", y.state(1), 4);
+        y.open(1);
+        DUE.bytes("HELLO", Talk.sent(y, 1), Code.hello(1, 3));
     }
 
     private static void closeInEachState() {

@@ -118,6 +118,15 @@ public final class EdgesOfReadingTest {
         asked(full, 18, 2, Talk.header(full, 18), Talk.header(full, 19));
         asked(full, 19, 2, Talk.header(full, 19));
         asked(full, 20, 2);
+        // HEAVIEST is a header alone, one above HEAD.
+        Node ahead = node(99);
+        tell(ahead, ONE, TWO);
+        ahead.work();
+        Talk.give(ahead, 0, Code.body(2, 4, 5));
+        Talk.drain(ahead, 0);
+        asked(ahead, 0, 2, Code.GENESIS, ONE);
+        asked(ahead, 1, 2, ONE);
+        asked(ahead, 2, 2);
     }
 
     private static void askHeadersCount() {

@@ -73,7 +73,7 @@ public final class RefusedCallsTest {
         return calls;
     }
 
-    /** Peer 0 is READY with a request and a full outbox, 1 GREETING, 2 BANNED, 3 CLOSED with what it had before. */
+    /** Peer 0 is READY with BACK 1, a request and a full outbox, 1 GREETING, 2 BANNED, 3 CLOSED with what it had before. */
     private static Node fourStates() {
         Node x = new Node(1, 3);
         Talk.ready(x, 3, 1, 9);
@@ -85,8 +85,9 @@ public final class RefusedCallsTest {
         Talk.give(x, 0, Code.hello(1, 7));
         x.tick(2);
         x.work();
+        Talk.give(x, 0, Code.headers(2, new int[] {5, 1, 1, 8, 0}));
+        x.work();
         Talk.give(x, 0, Code.askHeaders(1, 0, 1));
-        Talk.give(x, 0, Code.askHeaders(2, 0, 1));
         x.open(1);
         x.open(2);
         Talk.give(x, 2);
