@@ -223,7 +223,8 @@ public final class EdgesOfBlocksTest {
             for (int weight : weightsNear(w)) {
                 Node x = new Node(1, 9);
                 int head = Talk.sealUpTo(x, w);
-                DUE.is("WEIGHT " + weight + " behind " + w, x.seal(99, weight, 1), isGood(weight, w) ? head + 1 : ChainPeers.NONE);
+                int want = isGood(weight, w) ? head + 1 : ChainPeers.NONE;
+                DUE.is("WEIGHT " + weight + " behind " + w, x.seal(99, weight, 1), want);
             }
         }
         // Differences that wrap around must not look small.
