@@ -56,7 +56,7 @@ public final class ChainPeers {
     private final int wait;
     private final Bytes wire = new Bytes();
     private final Bytes draft = new Bytes();
-    private final Message message = new Message(wire);
+    private final Message message = new Message();
     private final Blocks blocks = new Blocks();
     private final Peer[] peers = new Peer[PEERS];
     // Rows that seal fills anew each time.
@@ -113,7 +113,7 @@ public final class ChainPeers {
             return NONE;
         }
         Peer peer = peers[p];
-        if (!message.parse()) {
+        if (!message.parse(wire)) {
             peer.fault(NO_MESSAGE);
             return BROKEN;
         }
@@ -524,15 +524,12 @@ public final class ChainPeers {
         private int listed;
         private final int[][] headers = new int[MOST_HEADERS][HEADER_NUMBERS];
         private final int[] body = new int[MOST_IN_BODY];
-        private final Bytes source;
+        private final Bytes source = new Bytes();
         private int at;
 
-        private Message(Bytes source) {
-            this.source = source;
-        }
-
         /** Answers whether the bytes are the code of a message; if not, the fields mean nothing. */
-        private boolean parse() {
+        private boolean parse(Bytes bytes) {
+            source.copyFrom(bytes);
             at = 0;
             int end = enterList(source.size);
             if (end != source.size) {

@@ -23,16 +23,6 @@ public final class FaceTest {
         int modifiers = ChainPeers.class.getModifiers();
         due.is("public and final", Modifier.isPublic(modifiers) && Modifier.isFinal(modifiers), true);
         due.is("the face: " + seen() + " for " + due(), seen().equals(due()), true);
-        Set<String> names = new TreeSet<>();
-        for (Method method : ChainPeers.class.getDeclaredMethods()) {
-            if (Modifier.isPublic(method.getModifiers())) {
-                names.add(method.getName());
-            }
-        }
-        for (Method method : ChainPeers.class.getDeclaredMethods()) {
-            boolean isPublic = Modifier.isPublic(method.getModifiers());
-            due.is(method.getName() + " is private", !isPublic && names.contains(method.getName()), false);
-        }
         due.end();
     }
 

@@ -8,6 +8,7 @@ public final class Promise02Test {
         onlyIfClosed();
         resetsBestAndBackButNotScore();
         tellsNumberOfHead();
+        tellsNumberNotBlock();
         DUE.end();
     }
 
@@ -74,5 +75,17 @@ public final class Promise02Test {
         DUE.is("HEAVIEST", x.state(1), 4);
         x.open(1);
         DUE.bytes("HELLO with the NUMBER of HEAD", Talk.sent(x, 1), Code.hello(1, 3));
+    }
+
+    /** HEAD is block 2 here, but its NUMBER is 1. */
+    private static void tellsNumberNotBlock() {
+        Node x = new Node(1, 9);
+        Talk.ready(x, 0, 1, 9);
+        x.work();
+        Talk.give(x, 0, Code.headers(1, Code.child(Code.GENESIS, 1, 8, 4)));
+        x.seal(1, 9, 5);
+        DUE.is("HEAD", x.state(2), 2);
+        x.open(2);
+        DUE.bytes("HELLO with the NUMBER of HEAD", Talk.sent(x, 2), Code.hello(1, 1));
     }
 }

@@ -119,6 +119,10 @@ public final class Promise07CodesTest {
         due("the largest header", ChainPeers.ODD, Code.headers(big, new int[] {big, big, big, big, big}));
         due("a header of four", B, Code.list(2, 1, new Object[] {Code.numbers(1, 1, 1, 1)}));
         due("a header of six", B, Code.list(2, 1, new Object[] {Code.numbers(1, 1, 1, 1, 1, 1)}));
+        due("a header of six and one of four", B, Code.list(2, 1, new Object[] {
+            Code.numbers(1, 1, 1, 1, 1, 1), Code.numbers(1, 1, 1, 1)}));
+        due("a header in a header", B, Code.list(2, 1, new Object[] {new Object[] {1, 1, 1, 1, 1, small}}));
+        due("a header that ends within the next one", B, 207, 2, 1, 204, 198, 1, 1, 1, 1, 1, 197, 1, 1, 1, 1, 1);
         due("the second header of four", B, Code.list(2, 1, new Object[] {small, Code.numbers(1, 1, 1, 1)}));
         due("five numbers, no list", B, Code.list(2, 1, Code.numbers(1, 1, 1, 1, 1)));
         due("a header with a list", B, Code.list(2, 1, new Object[] {new Object[] {1, 1, 1, 1, new Object[0]}}));

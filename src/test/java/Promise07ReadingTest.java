@@ -10,8 +10,12 @@ public final class Promise07ReadingTest {
         greeting();
         helloAndByeOfReady();
         askHeaders();
+        askHeadersOfAFork();
         askBody();
+        askBodyOfAny();
+        askingIsNoMerit();
         headersNotAskedFor();
+        requestsThatAreDone();
         emptyHeaders();
         headersFromElsewhere();
         unknownHeaders();
@@ -119,6 +123,21 @@ public final class Promise07ReadingTest {
         asked(grown(1), 2, 2);
     }
 
+    /** The CHAIN of HEAD is blocks 0, 2 and 3 here: block 1 has no body, and NUMBERs are not blocks. */
+    private static void askHeadersOfAFork() {
+        Node x = node(9);
+        x.work();
+        Talk.give(x, 0, Code.headers(1, ONE));
+        x.seal(1, 9, 5);
+        x.seal(2, 9, 6);
+        Talk.drain(x, 0);
+        DUE.is("HEAD", x.state(2), 3);
+        asked(x, 0, 2, Code.GENESIS, Talk.header(x, 2));
+        asked(x, 1, 2, Talk.header(x, 2), Talk.header(x, 3));
+        asked(x, 2, 2, Talk.header(x, 3));
+        asked(x, 3, 2);
+    }
+
     private static void askBody() {
         Node x = grown(2);
         DUE.is("a body", Talk.give(x, 0, Code.askBody(300, Code.hash(ONE))), 3);
@@ -132,6 +151,34 @@ public final class Promise07ReadingTest {
         DUE.is("no block", Talk.give(x, 0, Code.askBody(1, 12345)), 3);
         DUE.is("nothing is sent", x.send(0), ChainPeers.NONE);
         DUE.is("no FAULT", x.peer(0, Talk.SCORE), 3);
+    }
+
+    /** A block that is not IMPORTED has its body all the same, and so has one that is not in the CHAIN of HEAD. */
+    private static void askBodyOfAny() {
+        Node x = grown(0);
+        Talk.ready(x, 1, 1, 99);
+        x.work();
+        Talk.give(x, 1, Code.body(3));
+        Talk.drain(x, 0);
+        DUE.is("TWO is not IMPORTED", x.block(2, 8), 0);
+        Talk.give(x, 0, Code.askBody(7, Code.hash(TWO)));
+        DUE.bytes("BODY", Talk.sent(x, 0), Code.body(7));
+        x.seal(1, 8, 70);
+        DUE.is("HEAD", x.state(2), 4);
+        Talk.give(x, 0, Code.body(2, 4, 5));
+        DUE.is("HEAD", x.state(2), 2);
+        Talk.give(x, 0, Code.askBody(8, x.block(4, 5)));
+        DUE.bytes("BODY", Talk.sent(x, 0), Code.body(8, 70));
+    }
+
+    private static void askingIsNoMerit() {
+        Node x = node(0);
+        Talk.give(x, 0, Code.askHeaders(1, 0, 2));
+        DUE.is("SCORE after ASK-HEADERS", x.peer(0, Talk.SCORE), 0);
+        Talk.give(x, 0, Code.askBody(1, Code.GENESIS_HASH));
+        DUE.is("SCORE after ASK-BODY", x.peer(0, Talk.SCORE), 0);
+        Talk.give(x, 0, Code.askBody(1, 12345));
+        DUE.is("SCORE after ASK-BODY in vain", x.peer(0, Talk.SCORE), 0);
     }
 
     private static void headersNotAskedFor() {
@@ -148,6 +195,27 @@ public final class Promise07ReadingTest {
         DUE.is("no block", x.state(0), 1);
         DUE.is("what was asked for", Talk.give(x, 0, Code.headers(1, ONE)), 2);
         DUE.is("a MERIT", x.peer(0, Talk.SCORE), -2);
+    }
+
+    /** What was a request is none when it is done: neither its own id nor 0 stands for it. */
+    private static void requestsThatAreDone() {
+        for (int id : new int[] {0, 1}) {
+            Node x = node(9);
+            x.work();
+            Talk.give(x, 0, Code.headers(1, ONE));
+            DUE.is("HEADERS " + id, Talk.give(x, 0, Code.headers(id, TWO)), ODD);
+            DUE.is("a FAULT of 1", x.peer(0, Talk.SCORE), 0);
+            DUE.is("no block", x.state(0), 2);
+        }
+        for (int id : new int[] {0, 2}) {
+            Node x = node(9);
+            x.work();
+            Talk.give(x, 0, Code.headers(1, ONE));
+            x.work();
+            Talk.give(x, 0, Code.body(2, 4, 5));
+            DUE.is("BODY " + id, Talk.give(x, 0, Code.body(id, 4, 5)), ODD);
+            DUE.is("a FAULT of 1", x.peer(0, Talk.SCORE), 1);
+        }
     }
 
     private static void emptyHeaders() {

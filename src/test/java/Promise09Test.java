@@ -13,6 +13,9 @@ public final class Promise09Test {
         afterATimeoutAnotherIsAsked();
         noHeadersWhenFull();
         ids();
+        onlyReadyPeersForBodies();
+        deadlines();
+        lostMessages();
         DUE.end();
     }
 
@@ -159,5 +162,65 @@ public final class Promise09Test {
         x.work();
         DUE.is("no id comes twice", x.peer(1, Talk.REQUEST), 5);
         DUE.is("the latest", x.state(4), 5);
+    }
+
+    /** A node whose peer 3 told it of ONE, the body of which is lacking and not asked for. */
+    private static Node lackingABody(int wait) {
+        Node x = new Node(1, wait);
+        Talk.ready(x, 3, 1, 9);
+        x.work();
+        x.send(3);
+        Talk.give(x, 3, Code.headers(1, ONE));
+        return x;
+    }
+
+    private static void onlyReadyPeersForBodies() {
+        Node x = lackingABody(5);
+        x.close(3);
+        x.open(0);
+        x.open(1);
+        Talk.give(x, 1);
+        DUE.is("GREETING, BANNED, CLOSED and CLOSED", x.work(), 0);
+        DUE.is("no id is used", x.state(4), 1);
+        DUE.is("our HELLO alone", x.peer(0, Talk.OUTBOX), 1);
+        Talk.give(x, 0, Code.hello(1, 0));
+        DUE.is("READY", x.work(), 1);
+        DUE.is("its request", x.peer(0, Talk.REQUEST), 2);
+    }
+
+    private static void deadlines() {
+        Node x = new Node(1, 5);
+        x.tick(50);
+        Talk.ready(x, 0, 1, 9);
+        x.work();
+        DUE.is("headers, at TIME + wait", x.tick(5), 0);
+        DUE.is("headers, one tick more", x.tick(1), 1);
+        Node y = lackingABody(7);
+        y.tick(50);
+        DUE.is("a body is asked for", y.work(), 1);
+        DUE.is("a body, at TIME + wait", y.tick(7), 0);
+        DUE.is("a body, one tick more", y.tick(1), 1);
+    }
+
+    private static void lostMessages() {
+        Node x = lackingABody(5);
+        Node y = new Node(1, 5);
+        Talk.ready(y, 3, 1, 9);
+        for (int id = 1; id <= 4; id++) {
+            Talk.give(x, 3, Code.askHeaders(id, 5, 1));
+            Talk.give(y, 3, Code.askHeaders(id, 5, 1));
+        }
+        DUE.is("asked for a body", x.work(), 1);
+        DUE.is("the request stands", x.peer(3, Talk.REQUEST), 2);
+        DUE.is("its message is lost", x.peer(3, Talk.OUTBOX), 4);
+        DUE.is("the body comes", Talk.give(x, 3, Code.body(2, 4)), 4);
+        DUE.is("asked for headers", y.work(), 1);
+        DUE.is("the request stands", y.peer(3, Talk.REQUEST), 1);
+        DUE.is("its message is lost", y.peer(3, Talk.OUTBOX), 4);
+        DUE.is("the headers come", Talk.give(y, 3, Code.headers(1, ONE)), 2);
+        for (int id = 1; id <= 4; id++) {
+            DUE.bytes("what was there before", Talk.sent(x, 3), Code.headers(id));
+        }
+        DUE.is("no more", x.send(3), ChainPeers.NONE);
     }
 }

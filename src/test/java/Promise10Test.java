@@ -14,6 +14,7 @@ public final class Promise10Test {
         DUE.is("TIME", x.state(3), 50);
         deadline();
         several();
+        atDifferentTicks();
         bans();
         DUE.end();
     }
@@ -49,6 +50,24 @@ public final class Promise10Test {
         for (int p : new int[] {0, 1, 3}) {
             DUE.is("SCORE of " + p, x.peer(p, Talk.SCORE), -1);
         }
+    }
+
+    /** One call loses what falls due at any of its ticks. */
+    private static void atDifferentTicks() {
+        Node x = new Node(1, 3);
+        for (int p = 0; p < 4; p++) {
+            Talk.ready(x, p, 1, 9);
+            if (p != 2) {
+                x.work();
+                DUE.is("not yet", x.tick(1), 0);
+            }
+        }
+        DUE.is("two at one tick, the others at ticks of their own", x.tick(50), 4);
+        for (int p = 0; p < 4; p++) {
+            DUE.is("request of " + p, x.peer(p, Talk.REQUEST), 0);
+            DUE.is("SCORE of " + p, x.peer(p, Talk.SCORE), -1);
+        }
+        DUE.is("TIME", x.state(3), 53);
     }
 
     private static void bans() {

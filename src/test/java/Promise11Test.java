@@ -8,6 +8,7 @@ public final class Promise11Test {
         knownAlready();
         behindHead();
         full();
+        ticksDoNotMatter();
         DUE.end();
     }
 
@@ -87,6 +88,17 @@ public final class Promise11Test {
         DUE.is("seal", x.seal(9, 11, 1), 3);
         DUE.is("behind the new HEAD", x.block(3, 0), Code.hash(one));
         DUE.is("TOTAL", x.block(3, 6), 30);
+    }
+
+    /** A block's TIME is what its maker says. */
+    private static void ticksDoNotMatter() {
+        Node x = new Node(1, 1);
+        x.tick(50);
+        DUE.is("a TIME below the ticks", x.seal(1, 8, 1), 1);
+        DUE.is("it is as said", x.block(1, 2), 1);
+        DUE.is("a TIME above the ticks", x.seal(1000, 8, 1), 2);
+        DUE.is("it is as said", x.block(2, 2), 1000);
+        DUE.is("the ticks stay", x.state(3), 50);
     }
 
     private static void full() {

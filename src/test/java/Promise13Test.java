@@ -22,7 +22,18 @@ public final class Promise13Test {
         Talk.give(x, 0, Code.body(2, 1, 2, 3));
         is(x, 1, one[0], 1, 70000, 9, one[4], Code.hash(one), 17, 3, 1);
         is(x, 2, Code.hash(one), 2, 70001, 10, 0, Code.hash(two), 27, -1, 0);
-        for (int k : new int[] {-1, 3, 19, 20, Integer.MIN_VALUE, Integer.MAX_VALUE}) {
+        int[] three = Code.child(two, 70002, 10, 9);
+        int[] four = Code.child(three, 70003, 10, 8, 7);
+        x.work();
+        Talk.give(x, 0, Code.body(3));
+        x.work();
+        Talk.give(x, 0, Code.headers(4, three, four));
+        Talk.ready(x, 1, 1, 9);
+        x.work();
+        Talk.give(x, 1, Code.body(6, 8, 7));
+        // It has a body, but its parent has none.
+        is(x, 4, Code.hash(three), 4, 70003, 10, four[4], Code.hash(four), 47, 2, 0);
+        for (int k : new int[] {-1, 5, 19, 20, Integer.MIN_VALUE, Integer.MAX_VALUE}) {
             for (int which = -1; which < 10; which++) {
                 DUE.is("block(" + k + ", " + which + ")", x.block(k, which), ChainPeers.NONE);
             }

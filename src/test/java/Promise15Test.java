@@ -27,6 +27,7 @@ public final class Promise15Test {
             DUE.is("state(" + which + ")", x.state(which), ChainPeers.NONE);
         }
         sameTotals();
+        greatestTotals();
         DUE.end();
     }
 
@@ -41,6 +42,29 @@ public final class Promise15Test {
         x.work();
         Talk.give(x, 0, Code.body(2, 6));
         is(x, 3, 1, 1, 0, 2);
+    }
+
+    /** Blocks, not NUMBERs, are answered, and a greater TOTAL counts for more than a longer CHAIN. */
+    private static void greatestTotals() {
+        Node x = new Node(1, 5);
+        Talk.ready(x, 0, 1, 9);
+        x.work();
+        int[] one = Code.child(Code.GENESIS, 1, 5, 1);
+        Talk.give(x, 0, Code.headers(1, one, Code.child(one, 2, 3, 2)));
+        is(x, 3, 2, 0, 0, 1);
+        x.seal(1, 11, 3);
+        is(x, 4, 3, 3, 0, 1);
+        Node y = new Node(1, 5);
+        Talk.ready(y, 0, 1, 9);
+        y.work();
+        int[] heavy = Code.child(Code.GENESIS, 1, 11, 1);
+        Talk.give(y, 0, Code.headers(1, heavy));
+        y.seal(1, 5, 2);
+        y.seal(2, 4, 3);
+        is(y, 4, 1, 3, 0, 1);
+        y.work();
+        Talk.give(y, 0, Code.body(2, 1));
+        is(y, 4, 1, 1, 0, 2);
     }
 
     private static void is(Node x, int... want) {
